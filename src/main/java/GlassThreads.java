@@ -659,7 +659,7 @@ public final class GlassThreads {
         private final int[] numbers = new int[MOST_BYTES + 1];
         private final int[] starts = new int[MOST_BYTES + 1];
         private int size = 0;
-        private int cursor = 0;
+        private int cursor = NONE;
         private int token = END;
         private int number = 0;
         private int faultKind = 0;
@@ -686,7 +686,8 @@ public final class GlassThreads {
             put(END, 0, length);
             faultKind = 0;
             faultPlace = NONE;
-            goTo(0);
+            cursor = NONE;
+            advance();
         }
 
         /** Puts the token that begins at a byte, and tells where it ends: always behind that byte. */
@@ -720,16 +721,12 @@ public final class GlassThreads {
             }
         }
 
-        private void goTo(int place) {
-            if (place >= 0 && place < size) {
-                cursor = place;
-                token = tokens[place];
-                number = numbers[place];
-            }
-        }
-
         private void advance() {
-            goTo(cursor + 1);
+            if (cursor + 1 < size) {
+                cursor++;
+                token = tokens[cursor];
+                number = numbers[cursor];
+            }
         }
 
         /** A number of too many digits becomes one that is above all bounds. */
@@ -779,7 +776,7 @@ public final class GlassThreads {
 
         private boolean refuse(int kind) {
             faultKind = kind;
-            faultPlace = starts[cursor];
+            faultPlace = cursor < 0 ? 0 : starts[cursor];
             return false;
         }
 
