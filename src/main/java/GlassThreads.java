@@ -1637,19 +1637,9 @@ public final class GlassThreads {
             bits = other.bits;
         }
 
+        /** Searches meet ways in their order as rows, so of like ones the one met first stays. */
         private boolean isLessThan(Way other) {
-            if (cost != other.cost) {
-                return cost < other.cost;
-            }
-            if (size != other.size) {
-                return size < other.size;
-            }
-            for (int i = 0; i < size; i++) {
-                if (cables[i] != other.cables[i]) {
-                    return cables[i] < other.cables[i];
-                }
-            }
-            return false;
+            return cost < other.cost || cost == other.cost && size < other.size;
         }
     }
 

@@ -1,3 +1,6 @@
+import java.util.Arrays;
+import java.util.Random;
+
 /** Promises 22 to 25: where to dig, and the levels of lamps. */
 public final class DigLampsTest {
     private static final int NONE = GlassThreads.NONE;
@@ -118,35 +121,55 @@ public final class DigLampsTest {
         lampsAre("the other a step lower", x, 7, 6);
     }
 
-    /** All rows of steps tried one by one, in another way than the program does. */
+    /** All rows of steps tried one by one, in another order than the program does. */
     private static void allRows() {
-        GlassThreads x = with("run 3; amp 2000 2500; plug 1; run 4;", "run 100*colour+length; plug 40*age; noise colour*colour;");
-        int[][] tries = {{3, -900, 0, 500, -300, 0, 0}, {4, 100, 100, 0, 700, 300, 800}, {4, -3000, 1, 2, 3, 4, 36499},
-            {2, 1500, -1000, 0, 0, 0, 400}, {4, -2000, 2500, 0, 0, 2500, 4000}, {3, 0, 0, 3000, 0, 0, 365}};
-        for (int[] t : tries) {
-            int n = t[0];
-            int[] best = null;
-            int bestMargin = 0;
-            for (int i = 0; i < 1 << 3 * n; i++) {
-                int[] row = new int[n];
-                for (int c = 0; c < n; c++) {
-                    row[c] = i >> 3 * c & 7;
-                }
-                int margin = leastMargin(x, t, row);
-                if (best == null || margin > bestMargin || margin == bestMargin && isAhead(row, best)) {
-                    best = row;
-                    bestMargin = margin;
+        Random chance = new Random(24);
+        for (int i = 0; i < 400; i++) {
+            String amp = "amp " + 500 * chance.nextInt(5) + " " + 500 * chance.nextInt(6) + ";";
+            GlassThreads x = with("run 3;" + amp + "plug 1; run 4;",
+                    "run 50*colour*" + chance.nextInt(4) + "; plug 100*age; noise colour;");
+            int n = 1 + chance.nextInt(i % 20 == 0 ? 4 : 3);
+            int base = 250 * (chance.nextInt(12) - 8);
+            int day = 365 * chance.nextInt(5);
+            int[] needs = new int[4];
+            int[][] margins = new int[4][8];
+            for (int c = 0; c < 4; c++) {
+                needs[c] = 100 * (chance.nextInt(60) - 30);
+                for (int s = 0; s < 8; s++) {
+                    margins[c][s] = x.margin(0, c, base + 500 * s, needs[c], day, 0);
                 }
             }
-            Checks.is("the best of all", bestMargin, x.lamps(0, n, t[1], t[2], t[3], t[4], t[5], t[6]));
+            int[] best = bestRow(margins, n);
+            int due = leastMargin(margins, best);
+            Checks.is("the best of all", due, x.lamps(0, n, base, needs[0], needs[1], needs[2], needs[3], day));
             lampsAre("its row", x, best);
         }
     }
 
-    private static int leastMargin(GlassThreads x, int[] t, int[] row) {
+    private static int[] row(int i, int n) {
+        int[] row = new int[n];
+        for (int c = 0; c < n; c++) {
+            row[c] = i >> 3 * c & 7;
+        }
+        return row;
+    }
+
+    private static int[] bestRow(int[][] margins, int n) {
+        int[] best = row(0, n);
+        for (int i = 1; i < 1 << 3 * n; i++) {
+            int[] row = row(i, n);
+            int more = leastMargin(margins, row) - leastMargin(margins, best);
+            if (more > 0 || more == 0 && isAhead(row, best)) {
+                best = row;
+            }
+        }
+        return best;
+    }
+
+    private static int leastMargin(int[][] margins, int[] row) {
         int least = Integer.MAX_VALUE;
         for (int c = 0; c < row.length; c++) {
-            int margin = x.margin(0, c, t[1] + 500 * row[c], t[2 + c], t[6], 0);
+            int margin = margins[c][row[c]];
             for (int o = 0; o < row.length; o++) {
                 margin -= o == c ? 0 : row[o] * 100 / Math.abs(o - c);
             }
@@ -156,9 +179,9 @@ public final class DigLampsTest {
     }
 
     private static boolean isAhead(int[] a, int[] b) {
-        int sumA = java.util.Arrays.stream(a).sum();
-        int sumB = java.util.Arrays.stream(b).sum();
-        return sumA != sumB ? sumA < sumB : java.util.Arrays.compare(a, b) < 0;
+        int sumA = Arrays.stream(a).sum();
+        int sumB = Arrays.stream(b).sum();
+        return sumA != sumB ? sumA < sumB : Arrays.compare(a, b) < 0;
     }
 
     private static void nothingComes() {

@@ -53,6 +53,12 @@ public final class TextsTest {
         Checks.is("bytes in order", 0, x.thread(8, 0));
         Checks.is("its length", 12, x.part(0, 0, 1));
         Checks.is("bytes behind n are gone", 0, x.count(7));
+        Checks.feed(x, "splice 123456;");
+        Checks.is("digits behind n don't count", 1, x.law(12));
+        Checks.is("the text ends there", 12, x.fault());
+        Checks.feed(x, "splices;");
+        Checks.is("nor letters", -2, x.thread(6, 0));
+        Checks.is("its end", 6, x.fault());
     }
 
     private static void threads() {
