@@ -71,7 +71,7 @@ public final class TextsTest {
         Checks.is("leading zeros", 12, x.part(2, 0, 1));
     }
 
-    private static void threadFault(String text, int kind, int place) {
+    static void threadFault(String text, int kind, int place) {
         GlassThreads x = new GlassThreads();
         Checks.is("fault of '" + text + "'", -1 - kind, Checks.thread(x, text, 0));
         Checks.is("its place in '" + text + "'", place, x.fault());
@@ -167,7 +167,7 @@ public final class TextsTest {
     }
 
     /** What an expression is worth, as the loss of a splice (clamped to 0 .. 99999). */
-    private static void worth(String expression, int due) {
+    static void worth(String expression, int due) {
         GlassThreads x = new GlassThreads();
         Checks.thread(x, "splice;", 0);
         Checks.is("law '" + expression + "'", 0, Checks.law(x, "splice " + expression + ";"));
@@ -214,7 +214,7 @@ public final class TextsTest {
         worth("nth", 1);
     }
 
-    private static void lawFault(String text, int kind, int place) {
+    static void lawFault(String text, int kind, int place) {
         GlassThreads x = new GlassThreads();
         Checks.thread(x, "run 5;splice;", 0);
         Checks.law(x, "run 77;");
