@@ -34,6 +34,7 @@ public final class EchoBoundsTest {
         fullestRow();
         echoRefused();
         echoesOfTheRow();
+        rowIsKept();
         looks();
         suspects();
         noLookYet();
@@ -474,6 +475,35 @@ public final class EchoBoundsTest {
         Checks.thread(x, "run 9;", 0);
         Checks.is("an empty row", 0, x.echo(1, 0, false, 0, 0));
         rowIs("an empty row is kept, too", x);
+    }
+
+    // "how many are in the ROW; it is kept"
+    private static void rowIsKept() {
+        GlassThreads x = with("splice; run 20; plug 50; run 90;");
+        Checks.thread(x, "run 9;", 0);
+        Checks.is("three", 3, x.echo(0, 0, false, 0, 0));
+        x.look(0);
+        x.suspect(1, 70);
+        x.seen(true);
+        x.seen(false);
+        x.readBack(0);
+        x.level(1, 0, 0, 0, false, 0, 0);
+        x.dead(99);
+        x.event(1, 0, 1, 0, 0);
+        x.lamps(1, 1, 0, 0, 0, 0, 0, 0);
+        x.sheet(0, 3);
+        Checks.is("no part", 3, x.rowOf(0, 1, 1));
+        Checks.illegal("no such n", () -> x.rowOf(0, 0, 9));
+        Checks.noSuch("no such sheet", () -> x.rowOf(1, 0, 0));
+        Checks.noSuch("no such thread", () -> x.echo(2, 0, false, 0, 0));
+        rowIs("it is kept", x, 0, 50, SPLICE, 20, 300, PLUG, 40, 1, GHOST);
+        Checks.is("one row for both sides can't be", 0, x.readBack(0));
+        x.dead(5);
+        x.look(0);
+        x.suspect(1, 70);
+        x.seen(false);
+        x.echo(1, 0, false, 0, 0);
+        Checks.is("another row that is kept isn't told", 1, x.readBack(0));
     }
 
     // "READ BACK begins anew, of a THREAD (no SUSPECTS, no ROWS; what is kept of sets stays)"

@@ -278,6 +278,9 @@ public final class NetBoundsTest {
         kept("it stays still", x, 0, 1);
         Checks.is("no pair of one node", NONE, x.pair(4, 4));
         kept("even then", x, 0, 1);
+        Checks.noSuch("no such node", () -> x.way(0, 8));
+        Checks.noSuch("no such node of a pair", () -> x.pair(0, 8));
+        kept("and then, too", x, 0, 1);
         Checks.is("of one node", 0, x.way(6, 6));
         kept("an empty way is kept", x);
         Checks.is("no way", NONE, x.way(6, 0));

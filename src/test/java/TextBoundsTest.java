@@ -32,6 +32,9 @@ public final class TextBoundsTest {
         threadsAndYears();
         latestFault();
         lawsInARow();
+        refusedLaws();
+        numbersAtOnce();
+        nthOfItsKind();
         partNumbers();
         coloursAndAges();
         longLife();
@@ -513,6 +516,43 @@ public final class TextBoundsTest {
             for (int part = 0; part < 4; part++) {
                 Checks.is("loss of part " + part + " behind '" + laws[i] + "'", due[i][part], x.loss(0, part, 0, 0));
             }
+        }
+    }
+
+    // "The tape's first n bytes (it is empty then)"
+    private static void refusedLaws() {
+        GlassThreads x = new GlassThreads();
+        Checks.feed(x, "splice x; splice 7; ");
+        Checks.is("a fault", 3, x.law(20));
+        Checks.is("the tape is empty all the same", 0, x.count(7));
+        Checks.feed(x, "splice 7; splice x; ");
+        Checks.is("a fault behind n counts for nothing", 0, x.law(9));
+        Checks.is("what is behind n is gone", 0, x.count(7));
+        Checks.feed(x, "splice; x           ");
+        Checks.is("a thread's, too", 0, x.thread(7, 0));
+        Checks.is("what is behind it is gone, too", 0, x.count(7));
+        Checks.is("by the law", 7, x.loss(0, 0, 0, 0));
+    }
+
+    /** The deepest text there is: five joinings wait in each of six expressions. */
+    private static void numbersAtOnce() {
+        String outer = "0 or 1 and 2=1+1*(";
+        TextsTest.worth(outer.repeat(5) + "0 or 1 and 2=1+1*1" + ")".repeat(5), 1);
+        TextsTest.worth(outer.repeat(5) + "0 or 1 and 2=1+1*0" + ")".repeat(5), 0);
+        TextsTest.worth("not not not not not not " + outer.repeat(5) + "not 0 or 1 and 2=1+1*nth" + ")".repeat(5), 1);
+        TextsTest.lawFault("run " + outer.repeat(6), 1, 4 + 18 * 6);
+        TextsTest.lawFault("run " + outer.repeat(6) + "0", 2, 4 + 18 * 6);
+    }
+
+    // "nth: how many PARTS of its kind stand ahead of it in the text, and 1"
+    private static void nthOfItsKind() {
+        GlassThreads x = new GlassThreads();
+        Checks.thread(x, "splice;".repeat(24), 0);
+        Checks.thread(x, "run 1;plug 0;amp 0 0;splice;".repeat(6), 0);
+        Checks.law(x, "run nth; splice nth; plug nth; noise nth;");
+        for (int part = 0; part < 24; part++) {
+            Checks.is("nth of 24 alike", part + 1, x.loss(0, part, 0, 0));
+            Checks.is("nth of six of each kind", part / 4 + 1, x.loss(1, part, 0, 0));
         }
     }
 
